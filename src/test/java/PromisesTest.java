@@ -305,6 +305,9 @@ public final class PromisesTest {
         due("turn(12) of none", x.turn(12), -6);
         due("turn(0) of none", x.turn(0), -3);
         refusedAre(0, 0, 1, 2, 2);
+        x.stone(4);
+        due("turn(7) of one", x.turn(7), 1);
+        ringIs(4);
     }
 
     private void bareAndAt() {
@@ -723,6 +726,8 @@ public final class PromisesTest {
         due("-2", x.towers(1, 5, 0), -2);
         tells("e1;", 1);
         due("below three words", x.towers(30, 4, 1), 5);
+        begin("28 towers, one word", "v3,1;");
+        due("six values make no sense", x.towers(30, 0, 5), 0);
         begin("28 towers, no words", "rr0,0;");
         due("-2 first", x.towers(1, -1, 0), -2);
         due("-3", x.towers(1, 0, 0), -3);
@@ -795,8 +800,12 @@ public final class PromisesTest {
         tells("v6,1;rh0,3;", 2);
         due("shortest", x.shortest(6, 0, -1), 1);
         due("worn", x.worn(0), 1);
-        x.put(0, 0);
         x.stone(-1);
+        due("worn, a place more", x.worn(0), 0);
+        x.put(1, 0);
+        due("worn, put", x.worn(0), 0);
+        x.put(0, 0);
+        x.put(1, -1);
         due("worn, another ring", x.worn(0), 0);
         tells("e1;", 1);
         due("worn, another word", x.worn(0), 1);
@@ -812,5 +821,11 @@ public final class PromisesTest {
         due("rings as then", x.rings(2, 0), 0);
         due("each as then", x.each(-1), 1);
         due("worn as then", x.worn(0), 1);
+        begin("found anew, put", "v3,1;e1;rr0,3;", -1, 1);
+        due("worn", x.worn(0), 1);
+        x.put(1, 0);
+        due("worn, put", x.sure(0), 2);
+        x.put(1, -1);
+        due("worn, two blanks", x.worn(0), 2);
     }
 }
