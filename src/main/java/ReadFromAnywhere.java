@@ -41,6 +41,7 @@ public final class ReadFromAnywhere {
     private static final int READERS = 5;
     private static final String READER_LETTERS = "rbsdh";
 
+    private final Letters letters;
     private final World now;
     private final World kept;
     private boolean keeps;
@@ -54,6 +55,7 @@ public final class ReadFromAnywhere {
     private final int[] refused;
 
     public ReadFromAnywhere() {
+        letters = new Letters();
         now = new World();
         kept = new World();
         keeps = false;
@@ -74,15 +76,15 @@ public final class ReadFromAnywhere {
         if (c < 0) {
             return refuse(BELOW);
         }
-        if (c > 255 || now.letters.many >= MOST_LETTERS) {
+        if (c > 255 || letters.many >= MOST_LETTERS) {
             return refuse(ROOM);
         }
-        return now.letters.add(c);
+        return letters.add(c);
     }
 
     public int tongue() {
-        int answer = teller.tell(now.letters, now.tongue);
-        now.letters.many = 0;
+        int answer = teller.tell(letters, now.tongue);
+        letters.many = 0;
         if (answer > 0) {
             forgetTongue();
         }
@@ -440,7 +442,7 @@ public final class ReadFromAnywhere {
             case 4:
                 return now.pairs.many;
             case 5:
-                return now.letters.many;
+                return letters.many;
             case 6:
                 return now.tongue.allStock();
             default:
@@ -504,29 +506,26 @@ public final class ReadFromAnywhere {
         return bits;
     }
 
-    /** All that an image keeps. */
+    /** All that an image keeps: what tongues have told, the ring and the pairs. */
     private static final class World {
-        final Letters letters;
         final Tongue tongue;
         final Ring ring;
         final Pairs pairs;
 
         World() {
-            letters = new Letters();
             tongue = new Tongue();
             ring = new Ring();
             pairs = new Pairs();
         }
 
         void copyFrom(World other) {
-            letters.copyFrom(other.letters);
             tongue.copyFrom(other.tongue);
             ring.copyFrom(other.ring);
             pairs.copyFrom(other.pairs);
         }
     }
 
-    /** The letters that have come and are not yet a tongue. */
+    /** The letters that have come and are not yet a tongue; they wait outside of the image. */
     private static final class Letters {
         final int[] signs;
         int many;
@@ -534,11 +533,6 @@ public final class ReadFromAnywhere {
         Letters() {
             signs = new int[MOST_LETTERS];
             many = 0;
-        }
-
-        void copyFrom(Letters other) {
-            System.arraycopy(other.signs, 0, signs, 0, MOST_LETTERS);
-            many = other.many;
         }
 
         int add(int sign) {

@@ -16,7 +16,6 @@ final class Oracle {
 
     /** What an image keeps. */
     private static final class State {
-        String text = "";
         List<int[]> words = new ArrayList<>(); // kind, set, weight, stock
         List<int[]> roads = new ArrayList<>(); // kind, eighth, wish
         List<Integer> ring = new ArrayList<>();
@@ -24,7 +23,6 @@ final class Oracle {
 
         State copy() {
             State other = new State();
-            other.text = text;
             for (int[] word : words) {
                 other.words.add(word.clone());
             }
@@ -37,6 +35,7 @@ final class Oracle {
         }
     }
 
+    private String letters = "";
     private State now = new State();
     private State image = null;
     private final Map<Integer, Integer> refusals = new HashMap<>();
@@ -107,16 +106,16 @@ final class Oracle {
         if (c < 0) {
             return -4;
         }
-        if (c > 255 || now.text.length() == 64) {
+        if (c > 255 || letters.length() == 64) {
             return -6;
         }
-        now.text += (char) c;
-        return now.text.length();
+        letters += (char) c;
+        return letters.length();
     }
 
     private int tongue() {
-        String text = now.text;
-        now.text = "";
+        String text = letters;
+        letters = "";
         for (int k = 1; k <= text.length(); k++) {
             Matcher matcher = TEXT.matcher(text.substring(0, k));
             if (!matcher.matches() && !matcher.hitEnd()) {
@@ -665,7 +664,7 @@ final class Oracle {
             stock += word[3];
         }
         int[] counts = {now.words.size(), now.roads.size(), now.ring.size(), Collections.frequency(now.ring, -1),
-            now.pairs.size(), now.text.length(), stock};
+            now.pairs.size(), letters.length(), stock};
         if (what >= 0 && what < counts.length) {
             return counts[what];
         }

@@ -761,11 +761,51 @@ public final class PromisesTest {
         ringIs();
         tells("n1;e2;", 2);
         due("image of two", x.image(), 2);
-        x.letter('v');
         due("on to two", x.on(), 2);
-        due("letters are as then", x.count(5), 0);
         due("kind", x.word(0, 0), 1);
         due("an image changes nothing", x.count(0), 2);
+        lettersAndImage();
+    }
+
+    /** Letters that are no tongue yet are not in the image: on neither takes nor brings any. */
+    private void lettersAndImage() {
+        begin("30 on, letters that came behind the image", "");
+        x.image();
+        x.letter('v');
+        x.letter('3');
+        due("on", x.on(), 0);
+        due("they stay", x.count(5), 2);
+        due("one more", x.letter(','), 3);
+        x.letter('2');
+        x.on();
+        due("the last", x.letter(';'), 5);
+        due("they become a tongue", x.tongue(), 1);
+        due("set", x.word(0, 1), 3);
+        begin("30 on, letters that were there at the image", SIX);
+        x.letter('s');
+        x.letter('0');
+        due("image", x.image(), 6);
+        due("an image leaves them", x.count(5), 2);
+        tells(",4;", 1);
+        due("on", x.on(), 6);
+        due("none comes back", x.count(5), 0);
+        due("what they told is as then", x.word(0, 3), 0);
+        due("the first", x.letter('e'), 1);
+        begin("30 on, a fault takes letters for good", "");
+        x.letter('x');
+        x.image();
+        due("fault", x.tongue(), -1000);
+        x.on();
+        due("none comes back", x.count(5), 0);
+        due("something lacks", x.tongue(), -1000);
+        begin("30 on, no room for letters", "");
+        x.image();
+        for (int i = 1; i <= 64; i++) {
+            due("letter " + i, x.letter(0), i);
+        }
+        x.on();
+        due("-6 as before", x.letter(0), -6);
+        due("64 letters", x.count(5), 64);
     }
 
     private void count() {
