@@ -111,7 +111,7 @@ final class Edges {
     /** Leaves nothing but what no answer may depend on: an image of nothing, and what searches have found. */
     private static void use(ReadFromAnywhere x) {
         x.image();
-        Check.tell(x, "v9,7;n5;e3;v9,2;a1;v6,4;rr0,9;rb1,9;s1,9;s3,5;s5,9;");
+        Check.tell(x, "n5;e3;v9,2;a1;v6,4;v9,7;rr0,9;rb1,9;s1,9;s3,5;s5,9;");
         Check.ring(x, 5, -1, 3, -1, 2);
         for (int kind = 0; kind < 5; kind++) {
             x.sayable(kind);
