@@ -1189,7 +1189,7 @@ public final class ReadFromAnywhere {
                 behind[pairs.ones[i]] |= 1 << pairs.others[i];
             }
             ring[0] = pairs.ones[0];
-            return goesOn(pairs.others[0], 1, pairs.many);
+            return goesOn(ring, behind, pairs.others[0], 1, pairs.many);
         }
 
         /** A ring leaves each word as often as it comes to it; without that no search is worth its time. */
@@ -1207,7 +1207,8 @@ public final class ReadFromAnywhere {
             return true;
         }
 
-        private boolean goesOn(int word, int place, int places) {
+        /** Whether a ring begun can be closed; each call goes one place on, so twelve at most stand open. */
+        private static boolean goesOn(int[] ring, int[] behind, int word, int place, int places) {
             if (place >= places || place >= MOST_PAIRS) {
                 return word == ring[0];
             }
@@ -1215,7 +1216,7 @@ public final class ReadFromAnywhere {
             for (int next = 0; next < MOST_WORDS; next++) {
                 if ((behind[word] >> next & 1) == 1) {
                     behind[word] ^= 1 << next;
-                    if (goesOn(next, place + 1, places)) {
+                    if (goesOn(ring, behind, next, place + 1, places)) {
                         return true;
                     }
                     behind[word] ^= 1 << next;

@@ -27,13 +27,24 @@ public final class FaceTest {
         check.end();
     }
 
-    private static void face(Check check) {
-        check.part("face");
+    /** The names of all calls. */
+    static Set<String> names() {
+        return due().keySet();
+    }
+
+    /** How many numbers each call takes. */
+    private static Map<String, Integer> due() {
         Map<String, Integer> due = new TreeMap<>();
         for (String row : FACE) {
             String[] parts = row.split(" ");
             due.put(parts[0], Integer.valueOf(parts[1]));
         }
+        return due;
+    }
+
+    private static void face(Check check) {
+        check.part("face");
+        Map<String, Integer> due = due();
         Class<?> type = ReadFromAnywhere.class;
         check.holds("the class is public and final",
             Modifier.isPublic(type.getModifiers()) && Modifier.isFinal(type.getModifiers()));
@@ -91,16 +102,28 @@ public final class FaceTest {
         while (imports.find()) {
             check.holds("import " + imports.group(1), imports.group(1).equals("java.util.Arrays"));
         }
+        methods(check, code.split("\n"));
+    }
+
+    private static void methods(Check check, String[] rows) {
+        Pattern opening = Pattern.compile("((?: {4}){1,2})((?:[\\w\\[\\]]+ )*)(\\w+)\\(.*\\) \\{");
+        Matcher head = null;
         int opened = 0;
-        int line = 0;
-        for (String row : code.split("\n")) {
-            line++;
-            if (row.matches("    (    )?(\\w+ )*[\\w\\[\\]]+ ?\\w*\\(.*\\) \\{")) {
+        int closed = 0;
+        for (int line = 0; line < rows.length; line++) {
+            Matcher matcher = opening.matcher(rows[line]);
+            if (matcher.matches()) {
+                head = matcher;
                 opened = line;
-            }
-            if (row.matches("    (    )?\\}") && opened > 0) {
-                check.holds("the method before row " + line + " is short", line - opened <= 60);
+            } else if (head != null && rows[line].equals(head.group(1) + "}")) {
+                check.holds(head.group(3) + " is short (rule 11)", line - opened < 60);
+                head = null;
+                closed++;
+            } else if (head != null && rows[line].matches(".*(?<![\\w.])" + head.group(3) + "\\(.*")) {
+                check.holds(head.group(3) + ", which calls itself, is private and static (rule 8)",
+                    head.group(2).startsWith("private static "));
             }
         }
+        check.holds("methods are found", closed > FACE.length);
     }
 }
